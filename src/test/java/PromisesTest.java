@@ -293,6 +293,9 @@ public final class PromisesTest {
         due.is("10: rounds", Due.text(x, 1, "customer 0 at 11 in 1;customer0at0out;"), 2);
         due.is("10: calendar",
             Due.text(x, 2, "on 0 stock 0 0; on 999 price 1 99; on 1 give 0 999; on 0001 push 1 0;"), 4);
+        due.is("10: the least of all numbers", Due.text(x, 2, "on 0 give 0 1; on 0 price 0 1; on 0 stock 0 0;"), 3);
+        due.is("10: the first again",
+            Due.text(x, 2, "on 0 stock 0 0; on 999 price 1 99; on 1 give 0 999; on 0001 push 1 0;"), 4);
         due.is("10: arcade", Due.text(x, 3, "shop 0 by shop 1 99;"), 1);
         due.is("10: lines", x.look(8) * 1000 + x.look(9) * 100 + x.look(10) * 10 + x.look(11), 3241);
         due.is("10: a fault", Due.text(x, 3, "shop 0 by shop 1 9"), NONE);
@@ -332,6 +335,8 @@ public final class PromisesTest {
 
     private static void fault() {
         isFault(0, "buys", 1, 4);
+        isFault(0, "buys;", 1, 4);
+        isFault(0, "buys 1 when ;", 1, 12);
         isFault(0, "buys 1  ", 1, 8);
         isFault(0, "Buys 1;", 1, 0);
         isFault(0, " buyss 1;", 1, 1);
@@ -678,6 +683,11 @@ public final class PromisesTest {
         x.errand(7, 9);
         due.is("24: as told if alike", x.served(1), 3);
         x.errand(NONE, 0);
+        x.errand(10, 10);
+        x.errand(2, 11);
+        x.errand(2, 11);
+        due.is("24: one is left for two", x.served(0), 2);
+        x.errand(NONE, 0);
         for (int i = 1; i <= 10; i++) {
             due.is("23: errand " + i, x.errand(2, 0), i);
         }
@@ -775,6 +785,13 @@ public final class PromisesTest {
             due.is("31: letter " + i + " of 3999", x.year(3999, 1 + i), letters[i]);
         }
         due.is("31: no letter 9", x.year(3999, 10), NONE);
+        int[][] rows = {{1444, 6, 4, 5, 2, 3, 0, 1}, {1666, 6, 5, 4, 3, 2, 1, 0}, {49, 2, 3, 0, 2}, {90, 2, 4}};
+        for (int[] row : rows) {
+            due.is("31: letters of " + row[0], x.year(row[0], 0), row.length - 1);
+            for (int i = 1; i < row.length; i++) {
+                due.is("31: letter " + i + " of " + row[0], x.year(row[0], i), row[i]);
+            }
+        }
         due.is("31: 3888", x.year(3888, 0), 15);
         due.is("31: its last", x.year(3888, 15), 0);
         due.is("31: no letter 15", x.year(3888, 16), NONE);
@@ -1010,6 +1027,25 @@ public final class PromisesTest {
         x.shop(1, 1);
         x.image(false);
         due.is("40: taken anew", x.look(0), 3);
+        bookOfImage();
+    }
+
+    /** A line of the image's book that was undone, and written over since. */
+    private static void bookOfImage() {
+        ArcadePoles x = new ArcadePoles();
+        x.shop(9, 5);
+        x.customer(50, 0);
+        x.customer(50, 0);
+        x.act(0, 0, 0);
+        x.act(0, 1, 0);
+        x.act(2, 0, 0);
+        x.image(true);
+        due.yes("40: undone behind the image", x.undo());
+        x.act(2, 1, 0);
+        due.is("40: another line", x.book(0, 3), 1);
+        x.image(false);
+        due.is("40: the line of the image", x.book(0, 3), 0);
+        due.is("40: last of the image", x.of(0, 4), 0);
     }
 
     private static void changeAll(ArcadePoles x, int i) {
