@@ -1047,17 +1047,17 @@ public final class ArcadePoles {
         }
 
         private int kind() {
-            return within(at, 0, tokens - 1) ? kinds[at] : END_OF_TEXT;
+            return at >= 0 && at < tokens ? kinds[at] : END_OF_TEXT;
         }
 
         private int number() {
-            return within(at, 0, tokens - 1) ? numbers[at] : 0;
+            return at >= 0 && at < tokens ? numbers[at] : 0;
         }
 
         /** A FAULT at the token that is read now. It is the first by its place, since reading stops with it. */
         private boolean wrong(int which) {
             fault = which;
-            place = within(at, 0, tokens - 1) ? starts[at] : NONE;
+            place = at >= 0 && at < tokens ? starts[at] : NONE;
             return false;
         }
 
@@ -1257,26 +1257,12 @@ public final class ArcadePoles {
         }
 
         private boolean condition(int open) {
-            int kind = kind();
-            if (kind != NOT && kind != '(') {
-                return expression() && comparison();
+            if (kind() == NOT || kind() == '(') {
+                return opened(open);
             }
-            if (open >= MOST_OPEN) {
-                return wrong(3);
-            }
-            at++;
-            if (kind == '(') {
-                return conditions(open + 1) && sign(')');
-            }
-            if (!condition(open + 1)) {
+            if (!expression()) {
                 return false;
             }
-            out.emit(OP_NOT, 0);
-            return true;
-        }
-
-        /** What stands behind the first E of a C. */
-        private boolean comparison() {
             int kind = kind();
             if (kind != '<' && kind != '=' && kind != '>') {
                 return wrong(1);
@@ -1286,6 +1272,23 @@ public final class ArcadePoles {
                 return false;
             }
             out.emit(kind == '<' ? OP_LESS : kind == '=' ? OP_ALIKE : OP_MORE, 0);
+            return true;
+        }
+
+        /** From a not or a ( on; so many of them are open ahead of it. */
+        private boolean opened(int open) {
+            if (open >= MOST_OPEN) {
+                return wrong(3);
+            }
+            boolean denied = kind() == NOT;
+            at++;
+            if (!denied) {
+                return conditions(open + 1) && sign(')');
+            }
+            if (!condition(open + 1)) {
+                return false;
+            }
+            out.emit(OP_NOT, 0);
             return true;
         }
     }
