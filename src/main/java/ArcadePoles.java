@@ -965,21 +965,30 @@ public final class ArcadePoles {
         private void scan() {
             tokens = 0;
             for (int i = 0; i < length; i++) {
-                int b = tape[i];
-                if (b == ' ' || b == '\n') {
-                    continue;
+                if (beginsToken(i)) {
+                    readToken(i, runEnd(i));
                 }
-                int to = runEnd(i);
-                if (isLetter(b)) {
-                    addToken(wordKind(i, to), i, 0);
-                } else if (isDigit(b)) {
-                    addToken(to - i <= 4 ? NUMBER : UNKNOWN, i, numberOf(i, to));
-                } else {
-                    addToken(SIGNS.indexOf((char) b) >= 0 ? b : UNKNOWN, i, 0);
-                }
-                i = to - 1;
             }
             addToken(END_OF_TEXT, length, 0);
+        }
+
+        /** No blank, and no letter or digit that stands together with the one ahead of it. */
+        private boolean beginsToken(int i) {
+            int b = tape[i];
+            int ahead = i > 0 ? tape[i - 1] : ' ';
+            boolean blank = b == ' ' || b == '\n';
+            return !blank && !(isLetter(b) && isLetter(ahead)) && !(isDigit(b) && isDigit(ahead));
+        }
+
+        private void readToken(int from, int to) {
+            int b = tape[from];
+            if (isLetter(b)) {
+                addToken(wordKind(from, to), from, 0);
+            } else if (isDigit(b)) {
+                addToken(to - from <= 4 ? NUMBER : UNKNOWN, from, numberOf(from, to));
+            } else {
+                addToken(SIGNS.indexOf((char) b) >= 0 ? b : UNKNOWN, from, 0);
+            }
         }
 
         private static boolean isLetter(int b) {

@@ -52,6 +52,7 @@ public final class ArcadeBoundsTest {
         p7DayAbove9990();
         p7HourElevenIsTheLast();
         p7CalendarOfThisDayAlone();
+        p7CalendarOfTheLastOnes();
         p7GivenUpTo9999();
         p7PushedWithoutGoods();
         p7JustSoMuch();
@@ -79,12 +80,14 @@ public final class ArcadeBoundsTest {
         p39Forgets();
         p39DoesNotForget();
         p39TheFirstOfAll();
+        p39LastAndBefore();
         p40NoneTaken();
         p40MoreThanOnce();
         p40TakenAnew();
         p40AnEmptyOne();
         p40NothingToUndo();
         p40TapeAndFaultStay();
+        p40AllThatIs();
     }
 
     private static void refused(String what, ToIntFunction<ArcadePoles> call) {
@@ -467,6 +470,19 @@ public final class ArcadeBoundsTest {
         x.act(3, 0, 8);
         x.hours(12);
         due.is("7: not on day 3", x.of(0, 0), 8);
+    }
+
+    private static void p7CalendarOfTheLastOnes() {
+        ArcadePoles x = quiet(12, 18);
+        Due.text(x, 2, "on 0 stock 11 99; on 0 price 11 1; on 0 give 17 1; on 0 push 11 17;");
+        x.hours(1);
+        due.is("7: goods of the twelfth", x.of(11, 0), 98);
+        due.is("7: price of the twelfth", x.of(11, 1), 1);
+        due.is("7: purse of the eighteenth", x.who(17, 0), 1001);
+        due.is("7: he has the thing", x.who(17, 4), 1);
+        due.is("7: he is last", x.of(11, 4), 17);
+        due.is("7: no other price", x.of(0, 1) + x.of(1, 1), 20);
+        due.is("7: the pushed one in the book", x.book(0, 3) * 100 + x.book(0, 4), 1711);
     }
 
     private static void p7GivenUpTo9999() {
@@ -876,6 +892,22 @@ public final class ArcadeBoundsTest {
         due.no("39: nothing", x.undo());
     }
 
+    private static void p39LastAndBefore() {
+        ArcadePoles x = quiet(1, 3);
+        for (int c = 0; c < 3; c++) {
+            x.act(0, c, 0);
+        }
+        for (int c = 0; c < 3; c++) {
+            x.act(2, c, 0);
+        }
+        for (int c = 2; c >= 0; c--) {
+            due.is("39: last " + c, x.of(0, 4), c);
+            due.is("39: before " + c, x.of(0, 5), c - 1);
+            due.yes("39: the buying of " + c, x.undo());
+        }
+        due.is("39: neither", x.of(0, 4) + x.of(0, 5), 2 * NONE);
+    }
+
     private static void p40NoneTaken() {
         refusedIn("40: none", ArcadeBoundsTest::aShutOne, x -> bit(x.image(false)), 0);
         ArcadePoles x = quiet(1, 1);
@@ -945,6 +977,43 @@ public final class ArcadeBoundsTest {
         x.image(false);
         due.is("40: the fault stays", x.fault(0) * 100 + x.fault(1), 214);
         due.is("40: the tape stays", x.feed(0, 0, 0, 0, 0), 40);
+    }
+
+    /** Of two that are filled alike, one is changed in all ways and gone back; the TAPE and fault() are made alike. */
+    private static void p40AllThatIs() {
+        ArcadePoles plain = Refusal.filled();
+        ArcadePoles back = Refusal.filled();
+        plain.image(true);
+        back.image(true);
+        changeAll(back);
+        due.yes("40: gone back", plain.image(false) && back.image(false));
+        plain.text(4);
+        back.text(4);
+        due.yes("40: all is as it was", Refusal.sight(back).equals(Refusal.sight(plain)));
+    }
+
+    private static void changeAll(ArcadePoles x) {
+        x.set(0, 1, 99);
+        x.set(1, 1, 9999);
+        x.set(2, 0, 0);
+        x.shop(1, 1);
+        x.customer(1, 1);
+        x.act(0, 1, 1);
+        x.act(2, 1, 0);
+        x.act(2, 0, 0);
+        x.hours(30);
+        x.end(0);
+        for (int k = 0; k < 4; k++) {
+            x.text(k);
+        }
+        x.coin(NONE);
+        x.told(0, 0, 0, 1);
+        x.errand(NONE, 0);
+        x.thread(NONE);
+        x.earn(-1000);
+        x.price(NONE);
+        x.shutter(NONE);
+        x.state(1);
     }
 
     private static void p41AnotherWhat() {

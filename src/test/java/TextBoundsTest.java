@@ -77,7 +77,9 @@ public final class TextBoundsTest {
         lWraps();
         lComparesAtTheEdge();
         lDeepest();
+        lOrsAndAndsOnEnd();
         lEmptyShop();
+        lEachWord();
     }
 
     private static int bit(boolean yes) {
@@ -428,6 +430,9 @@ public final class TextBoundsTest {
         isFault(LAW, "buys 1 / 0000;", 2, 9);
         isFault(LAW, "buys 1/2/0;", 2, 9);
         isFault(LAW, "buys 0 when 1/0=1;", 2, 14);
+        isFault(LAW, "buys 0 when 1=1/0;", 2, 16);
+        isFault(LAW, "buys 0 when (1=1/0);", 2, 17);
+        isFault(LAW, "buys 0 when not 1=1 or not 1=1/0;", 2, 31);
         isFine(LAW, "buys 0/1;", 1);
         isFine(LAW, "buys 1/9999;", 1);
         isFine(LAW, "buys 1/0001;", 1);
@@ -648,6 +653,24 @@ public final class TextBoundsTest {
         due.is("13: seven nots", asked("buys 1 when not not not not not not not 1=1; buys 2;", 10), 2);
     }
 
+    /** All ways in which three that are so or not can be joined. */
+    private static void lOrsAndAndsOnEnd() {
+        for (int so = 0; so < 8; so++) {
+            boolean a = (so & 1) > 0;
+            boolean b = (so & 2) > 0;
+            boolean c = (so & 4) > 0;
+            String[] is = {a ? "1=1" : "1=2", b ? "1=1" : "1=2", c ? "1=1" : "1=2"};
+            due.is("13: or or", joined(is, " or ", " or "), bit(a || b || c));
+            due.is("13: or and", joined(is, " or ", " and "), bit(a || b && c));
+            due.is("13: and or", joined(is, " and ", " or "), bit(a && b || c));
+            due.is("13: and and", joined(is, " and ", " and "), bit(a && b && c));
+        }
+    }
+
+    private static int joined(String[] is, String first, String second) {
+        return asked("buys 1 when " + is[0] + first + is[1] + second + is[2] + "; buys 0;", 10);
+    }
+
     private static void lEmptyShop() {
         ArcadePoles x = arcade(1, 1);
         x.act(3, 0, 0);
@@ -657,5 +680,34 @@ public final class TextBoundsTest {
         due.is("13: costs, nothing sold", x.who(0, 50), 7);
         x.act(0, 0, 0);
         due.is("13: he is in it", x.who(0, 30), 7);
+    }
+
+    /** Each word of another number: shut on day 0 by customer 1, open on days 1 to 3. */
+    private static void lEachWord() {
+        ArcadePoles x = new ArcadePoles();
+        x.shop(60, 31);
+        x.shop(60, 31);
+        x.customer(800, 8);
+        x.customer(800, 8);
+        x.customer(800, 8);
+        Due.text(x, LAW, "buys 0; yields 0;");
+        Due.text(x, CALENDAR, "on 0 push 1 1; on 1 push 1 1; on 5 push 1 1;");
+        x.hours(53);
+        x.act(0, 1, 1);
+        x.act(2, 1, 0);
+        x.act(2, 1, 0);
+        x.act(2, 1, 0);
+        x.act(2, 1, 0);
+        for (int c = 0; c < 3; c++) {
+            x.act(0, c, 1);
+        }
+        String[] words = {"purse", "polite", "goods", "price", "till", "nights", "poles", "crowd", "hour", "bought",
+            "day"};
+        int[] want = {676, 8, 54, 31, 124, 2, 2, 3, 5, 6, 4};
+        for (int i = 0; i < words.length; i++) {
+            x.text(LAW);
+            Due.text(x, LAW, "yields " + words[i] + ";");
+            due.is("13: " + words[i], x.who(1, 31), want[i]);
+        }
     }
 }

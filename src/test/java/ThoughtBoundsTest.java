@@ -31,6 +31,7 @@ public final class ThoughtBoundsTest {
         p34Edges();
         shutters();
         games();
+        oneBehindAnother();
         due.close();
     }
 
@@ -53,6 +54,7 @@ public final class ThoughtBoundsTest {
         p17ComesThroughAgain();
         p35OneCantBe();
         p35Edges();
+        p35AskedFirst();
     }
 
     private static void coins() {
@@ -83,6 +85,7 @@ public final class ThoughtBoundsTest {
         p24JustThen();
         p24NoneInTime();
         p24AsToldIfAlike();
+        p24TheOthersLeft();
     }
 
     private static void threads() {
@@ -377,6 +380,20 @@ public final class ThoughtBoundsTest {
         due.is("35: no fewer, so none by two", x.knows(0, 2), 0);
     }
 
+    private static void p35AskedFirst() {
+        for (int k = 0; k <= 3; k++) {
+            ArcadePoles x = arcade(4, 0);
+            Due.text(x, 3, "shop 0 by shop 1 9; shop 1 by shop 3 1;");
+            due.is("35: nothing asked ahead, k " + k, x.knows(0, k), k < 3 ? 1 : 0);
+        }
+        ArcadePoles x = arcade(3, 0);
+        Due.text(x, 3, "shop 0 by shop 1 9; shop 1 by shop 2 1;");
+        due.is("35: steps ahead of it", x.tramp(0, 0), 10);
+        due.is("35: couples behind it", x.knows(0, 2), 1);
+        due.is("35: steps again", x.tramp(2, 0), 10);
+        due.is("35: wide behind it", x.knows(NONE, 0), 2);
+    }
+
     private static void p18OneCantBe() {
         for (int v : new int[] {MIN, -2, 0, 51, MAX}) {
             refused("18: coin " + v, x -> x.coin(v));
@@ -666,6 +683,24 @@ public final class ThoughtBoundsTest {
         due.is("24: 1, then 9", x.served(1), 5);
     }
 
+    private static void isServed(int[] told, int howMany, int late) {
+        ArcadePoles x = new ArcadePoles();
+        for (int i = 0; i < told.length; i += 2) {
+            x.errand(told[i], told[i + 1]);
+        }
+        due.is("24: how many of " + java.util.Arrays.toString(told), x.served(0), howMany);
+        due.is("24: late of " + java.util.Arrays.toString(told), x.served(1), late);
+    }
+
+    private static void p24TheOthersLeft() {
+        isServed(new int[] {9, 9, 4, 10, 4, 11}, 2, 3 + 6);
+        isServed(new int[] {5, 20, 5, 6, 5, 10, 5, 11}, 3, 4);
+        isServed(new int[] {2, 9, 2, 8, 2, 7, 6, 6}, 3, 1 + 2 + 3);
+        isServed(new int[] {19, 99, 20, 80, 20, 60, 20, 40, 20, 20}, 5, 0);
+        isServed(new int[] {20, 99, 20, 80, 20, 60, 20, 40, 20, 20}, 4, 1);
+        isServed(new int[] {8, 8, 8, 9, 1, 10, 1, 11, 1, 12}, 4, 7 + 7 + 7 + 7);
+    }
+
     private static void p25OneCantBe() {
         ArcadePoles x = new ArcadePoles();
         for (int n : new int[] {MIN, -1, 0, 501, MAX}) {
@@ -880,6 +915,15 @@ public final class ThoughtBoundsTest {
         due.is("31: its last is X", x.year(3999, 9), 2);
         due.is("31: 3888 has fifteen", x.year(3888, 0), 15);
         due.is("31: its last is I", x.year(3888, 15), 0);
+        int[] letters = {0, 1, 2, 3, 2, 1, 2, 3, 4, 2};
+        for (int digit = 1; digit < 10; digit++) {
+            due.is("31: letters of " + digit, x.year(digit, 0), letters[digit]);
+            due.is("31: letters of " + digit + "0", x.year(10 * digit, 0), letters[digit]);
+            due.is("31: letters of " + digit + "00", x.year(100 * digit, 0), letters[digit]);
+        }
+        for (int y = 1000; y <= 3000; y += 1000) {
+            due.is("31: letters of " + y, x.year(y, 0), y / 1000);
+        }
         due.is("31: of 1 .. 1 one letter", x.year(1, 101), 1);
         due.is("31: of 1 .. 1 two letters", x.year(1, 102), 0);
         due.is("31: of 1 .. 3999 one letter", x.year(3999, 101), 7);
@@ -1098,5 +1142,40 @@ public final class ThoughtBoundsTest {
         isGame(new int[] {0, 0, 0, 0, 0, 0, 0, 0, 0, 0, 0, 99}, 11, 98);
         isGame(new int[] {64, 32, 16, 8, 4, 2, 1, 0, 0, 0, 0, 99}, 2, 4);
         isGame(new int[] {99, 99, 98, 98, 50, 50, 1, 1, 7, 7, 3, 3}, NONE, NONE);
+    }
+
+    private static final int QUESTIONS = 30;
+
+    private static int question(ArcadePoles x, int which) {
+        int what = which % 2;
+        switch (which / 2) {
+            case 0: return x.pays(151, what);
+            case 1: return x.served(what);
+            case 2: return x.threads(what);
+            case 3: return x.earned(what);
+            case 4: return x.lamps(400 + 100 * what, 500, NONE);
+            case 5: return x.ring(100 - what, 7, 98);
+            case 6: return x.waltz(29 + what);
+            case 7: return x.sums(5 - 6 * what);
+            case 8: return x.tramp(what, 0);
+            case 9: return x.knows(what - 1, 1);
+            case 10: return x.cheaply(what * 10);
+            case 11: return x.goes(59 + what, what);
+            case 12: return x.game(what);
+            case 13: return x.written(987654321, 3, what);
+            default: return x.year(3887 + what, 115 * what);
+        }
+    }
+
+    /** Nothing that is thought of stays: what is asked behind anything else is answered as if it were asked first. */
+    private static void oneBehindAnother() {
+        for (int second = 0; second < QUESTIONS; second++) {
+            int alone = question(Refusal.filled(), second);
+            for (int first = 0; first < QUESTIONS; first++) {
+                ArcadePoles x = Refusal.filled();
+                question(x, first);
+                due.is("T4: question " + second + " behind " + first, question(x, second), alone);
+            }
+        }
     }
 }
