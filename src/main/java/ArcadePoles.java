@@ -83,7 +83,6 @@ public final class ArcadePoles {
     private final World image = new World();
     private boolean imageTaken = false;
     private final Reader reader = new Reader();
-    private final Text draft = new Text();
     private final Kept kept = new Kept();
     private final Law law = new Law();
     private final Hours real = new Hours(now, law, false);
@@ -234,10 +233,10 @@ public final class ArcadePoles {
             reader.drop();
             return NONE;
         }
-        if (!reader.reads(k, now.arcade, draft)) {
+        if (!reader.reads(k, now.arcade)) {
             return NONE;
         }
-        told.copyFrom(draft);
+        told.copyFrom(reader.out);
         if (k == ROUNDS || k == CALENDAR) {
             kept.forget();
         }
@@ -924,7 +923,8 @@ public final class ArcadePoles {
         private int at = 0;
         private int shops = 0;
         private int customers = 0;
-        private Text out = new Text();
+        // Of its own, so that a TEXT stays as it was till it is known that there is no FAULT.
+        final Text out = new Text();
 
         boolean hasRoom(int bytes) {
             return length + bytes <= TAPE_ROOM;
@@ -945,11 +945,10 @@ public final class ArcadePoles {
             place = NONE;
         }
 
-        /** Whether the TAPE is a TEXT k without a FAULT; its lines are in the draft then. */
-        boolean reads(int k, Arcade arcade, Text draft) {
+        /** Whether the TAPE is a TEXT k without a FAULT; its lines are in out then. */
+        boolean reads(int k, Arcade arcade) {
             shops = arcade.shops;
             customers = arcade.customers;
-            out = draft;
             out.clear();
             scan();
             drop();
@@ -1751,6 +1750,8 @@ public final class ArcadePoles {
         static final int MOST_STEPS = 30;
         private static final int MOST_COIN = 50;
         private static final int MODULUS = 1000000007;
+        // Far above what eight threads can cost.
+        private static final int MOST_COST = 1000000;
         private static final int[] LETTERS = {0, 1, 2, 3, 2, 1, 2, 3, 4, 2};
         private static final int[] SIGN_WORTH = {1000, 900, 500, 400, 100, 90, 50, 40, 10, 9, 5, 4, 1};
         private static final int[] SIGN_FIRST = {6, 4, 5, 4, 4, 2, 3, 2, 2, 0, 1, 0, 0};
@@ -1950,7 +1951,7 @@ public final class ArcadePoles {
             for (int wide = 2; wide <= count; wide++) {
                 for (int from = 0; from + wide <= count; from++) {
                     int to = from + wide - 1;
-                    int least = Integer.MAX_VALUE;
+                    int least = MOST_COST;
                     int all = lengths.values[to];
                     for (int cut = from; cut < to; cut++) {
                         all += lengths.values[cut];

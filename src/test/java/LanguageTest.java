@@ -25,6 +25,7 @@ public final class LanguageTest extends TreePathScanner<Void, Void> {
         Tree.Kind.SWITCH_EXPRESSION, Tree.Kind.DOUBLE_LITERAL, Tree.Kind.FLOAT_LITERAL, Tree.Kind.ANNOTATION);
     private static final Set<String> LIBRARY = Set.of("Arrays.fill", "System.arraycopy", "Math.min", "Math.max",
         "Math.abs", "Math.floorMod", "Integer.bitCount", "WORDS.length", "WORDS.charAt", "SIGNS.indexOf");
+    private static final Set<String> LIBRARY_CLASSES = Set.of("Arrays", "System", "Math", "Integer", "Long", "String");
     private static final Due due = new Due("LanguageTest");
 
     private final CompilationUnitTree unit;
@@ -140,6 +141,14 @@ public final class LanguageTest extends TreePathScanner<Void, Void> {
         String name = called.substring(called.lastIndexOf('.') + 1);
         must("4, " + called, tree, LIBRARY.contains(called) || ownMethods.contains(name));
         return super.visitMethodInvocation(tree, none);
+    }
+
+    /** What is taken of a library class must stand in the list, be it called or not. */
+    @Override
+    public Void visitMemberSelect(MemberSelectTree tree, Void none) {
+        boolean library = LIBRARY_CLASSES.contains(tree.getExpression().toString());
+        must("4, " + tree, tree, !library || LIBRARY.contains(tree.toString()));
+        return super.visitMemberSelect(tree, none);
     }
 
     private void isMade(Tree tree) {

@@ -134,6 +134,7 @@ public final class MirrorTest {
             case 3: return high;
             case 4: return dice.nextInt(3) == 0 ? dice.nextInt() : low;
             case 5: return dice.nextInt(3) == 0 ? Integer.MIN_VALUE : NONE;
+            case 6: return dice.nextInt(3) == 0 ? Integer.MAX_VALUE : high;
             default: return low + upTo(high - low);
         }
     }
